@@ -816,6 +816,13 @@ public final class PromisesTest {
         mends(last, 0, 2, 8090);
         DancedPacts later = told(PAIR + "turn 0 1;turn 1 1;turn 0 2;turn 1 2;");
         mends(later, 0, 2, 212);
+        DancedPacts most = told("floor 19;" + PAIR + "turn 0 3;step 0 1 0;turn 0 1;step 0 8 0;step 0 8 0;"
+                + "turn 0 1;turn 1 1;");
+        mends(most, 0, 2, 3949);
+        DancedPacts lame = told("valley 9;valley 9;floor 4;dance 0 1 1;turn 0 1;step 0 1 0;turn 0 3;");
+        mends(lame, 0, 1, 10);
+        lame.years(1);
+        mends(lame, 0, 0, -1);
     }
 
     private static void costly() {
@@ -830,6 +837,8 @@ public final class PromisesTest {
         due("less ahead of more", 23, () -> less.costly(0));
         DancedPacts none = told(PAIR + "step 0 1 0;bow;bow;");
         due("none", -1, () -> none.costly(0));
+        DancedPacts zero = told(PAIR + "turn 0 1;turn 0 3;");
+        due("less is 0", 0, () -> zero.costly(0));
         DancedPacts edge = told(PAIR + "step 0 0 0;turn 0 0;");
         due("0 has no less", 11, () -> edge.costly(0));
         DancedPacts top = told(PAIR + "step 0 9 0;step 1 1 1;");
@@ -1162,5 +1171,36 @@ public final class PromisesTest {
         x.years(1);
         due("another image", true, x::restore);
         due("its year", 5, () -> x.count(3));
+        fullImage();
+    }
+
+    private static void fullImage() {
+        DancedPacts x = told(times("valley 0;", 6) + "dance 0 1 1;dance 0 2 1;dance 0 3 1;dance 0 4 1;"
+                + "dance 0 5 1;dance 1 2 1;dance 1 3 1;step 0 0 1;dance 1 4 1;" + times("step 0 0 7;", 10));
+        for (int i = 0; i < 40; i++) {
+            x.act(5, 7, i + 1);
+        }
+        for (int i = 0; i < 8; i++) {
+            x.see(7, 9, 1, 11, 6);
+        }
+        x.image();
+        for (int i = 0; i < 40; i++) {
+            x.stumble(7, 9, 0);
+        }
+        x.years(1);
+        x.breaks(7);
+        x.forget();
+        for (int i = 0; i < 8; i++) {
+            x.see(6, 0, 0, 1, 1);
+        }
+        x.forget();
+        due("all of it", true, x::restore);
+        due("eight seen", 8, () -> x.count(7));
+        due("as they were", 1, () -> x.limp(7, 2));
+        due("not of another", 1, () -> x.limp(6, 2));
+        due("done", 820, () -> x.done(5, 7, 0));
+        due("undone", 39, x::undo);
+        due("by forty", 780, () -> x.done(5, 7, 0));
+        due("not broken", 0, () -> x.dance(7, 5));
     }
 }
