@@ -1059,6 +1059,11 @@ public final class PromisesTest {
         due("one -1", "NSE", () -> x.game(-1, 0, 0, 0));
         due("about -1", "NSE", () -> x.game(0, 1, -1, 0));
         due("what -1", "NSE", () -> x.game(0, 1, 0, -1));
+        DancedPacts lame = told("valley 9;valley 0;floor 4;dance 0 1 1;turn 0 3;step 0 2 0;turn 0 1;"
+                + "step 0 3 5;turn 0 1;turn 1 1;");
+        due("bound now", 39, () -> lame.game(0, 1, 5, 1));
+        lame.years(1);
+        due("not a year later", 99, () -> lame.game(0, 1, 5, 1));
     }
 
     private static void century() {
