@@ -92,6 +92,25 @@ public final class BoundariesOfDancesTest {
         Boundary.due("stamped", 1, () -> x.count(5));
     }
 
+    static void promise05_theYearAheadOfWorseKnees() {
+        Boundary.nowAndThen("binding", 3, 2, x -> x.count(4));
+        DancedPacts x = Boundary.told(Boundary.LAME);
+        x.act(0, 3, 4);
+        Boundary.due("stamped now", 1, () -> x.count(5));
+        x.years(1);
+        Boundary.due("stamped a year later", 0, () -> x.count(5));
+    }
+
+    static void promise05_allThatThereCanBe() {
+        DancedPacts x = Boundary.told(Boundary.FULL);
+        Boundary.due("binding", 255, () -> x.count(4));
+        Boundary.due("stamped", 0, () -> x.count(5));
+        for (int valley = 0; valley < 6; valley++) {
+            x.act(valley, 7, 99);
+        }
+        Boundary.due("stamped, bound to nothing", 0, () -> x.count(5));
+    }
+
     // Promise 6: knees.
 
     static void promise06_noSuchValley() {
@@ -166,6 +185,21 @@ public final class BoundariesOfDancesTest {
         Boundary.due("not binding", 0, () -> x.dance(0, 6));
         Boundary.due("none that can't be", -1, () -> x.dance(0, 7));
         at(x, 0, 0, 5, 3, RIGHT);
+    }
+
+    static void promise07_theYearAheadOfWorseKnees() {
+        Boundary.nowAndThen("binding", 1, 0, x -> x.dance(0, 6));
+        Boundary.nowAndThenOf("valley 9;valley 0;dance 0 1 1;turn 0 2;step 0 1 0;", "can't be", 1, -1,
+                x -> x.dance(0, 7));
+    }
+
+    static void promise07_theEighthDanceOfTenSteps() {
+        DancedPacts x = Boundary.told(Boundary.FULL);
+        int[] due = {1, 4, 3, 10, 0, 0, 1, -1};
+        for (int what = 0; what < 8; what++) {
+            int w = what;
+            Boundary.due("what " + w, due[w], () -> x.dance(7, w));
+        }
     }
 
     // Promise 8: step.
@@ -430,6 +464,11 @@ public final class BoundariesOfDancesTest {
         at(x, 0, 1, 6, 3, LEFT);
     }
 
+    static void promise09_theYearAheadOfWorseKnees() {
+        Boundary.nowAndThen("y of the leader", 5, 6, x -> x.where(0, 2, 0, 1));
+        Boundary.nowAndThen("y of the follower", 5, 5, x -> x.where(0, 2, 1, 1));
+    }
+
     static void promise09_turnsAndBowsHaveNoKnees() {
         DancedPacts x = Boundary.told("valley 9;valley 9;floor 7;dance 0 1 1;turn 0 1;bow;");
         x.years(50);
@@ -639,6 +678,28 @@ public final class BoundariesOfDancesTest {
         Boundary.due("not by the second", -1, () -> x.bound(0, 3));
     }
 
+    static void promise10_theYearAheadOfWorseKnees() {
+        Boundary.nowAndThen("the leader", 3, -1, x -> x.bound(0, 3));
+        Boundary.nowAndThen("the follower", 2, 2, x -> x.bound(1, 3));
+        Boundary.nowAndThen("by a hop", 3, -1, x -> x.bound(1, 4));
+    }
+
+    static void promise10_theEighthDanceOfTenSteps() {
+        DancedPacts x = Boundary.told(Boundary.SIX + "dance 0 1 1;dance 0 2 1;dance 0 3 1;dance 0 4 1;dance 0 5 1;"
+                + "dance 1 2 1;dance 1 3 1;dance 1 4 4;" + "glove 0 0;".repeat(9) + "step 2 2 7;");
+        Boundary.due("the leader", 8, () -> x.bound(1, 7));
+        Boundary.due("the follower", 8, () -> x.bound(4, 7));
+        Boundary.due("another", -1, () -> x.bound(5, 7));
+        Boundary.due("the leader's gloves", 9, () -> x.clauses(1, 2));
+        Boundary.due("the follower's gloves", 0, () -> x.clauses(4, 2));
+        Boundary.due("the follower's clauses", 1, () -> x.clauses(4, 0));
+        DancedPacts y = Boundary.told(Boundary.FULL);
+        for (int valley = 0; valley < 6; valley++) {
+            int v = valley;
+            Boundary.due("nobody is bound", -1, () -> y.bound(v, 7));
+        }
+    }
+
     static void promise10_divisionBy0AndCutDown() {
         String[] rules = {"7/0", "7/0+4", "(0-7)/0+4", "0/0", "7/2", "1/2", "(0-7)/2+10", "7/(0-2)+10", "(0-1)/2+10",
             "(0-7)/(0-2)", "99/10*10", "9/3/3"};
@@ -802,6 +863,23 @@ public final class BoundariesOfDancesTest {
         }
     }
 
+    static void promise11_theYearAheadOfWorseKnees() {
+        Boundary.nowAndThen("bind", 1, 0, x -> x.clauses(0, 0));
+        Boundary.nowAndThen("hidden", 1, 0, x -> x.clauses(0, 1));
+        Boundary.nowAndThen("gloves", 1, 0, x -> x.clauses(0, 2));
+    }
+
+    static void promise11_allThatThereCanBe() {
+        DancedPacts x = Boundary.told(Boundary.FULL);
+        for (int valley = 0; valley < 6; valley++) {
+            for (int what = 0; what < 3; what++) {
+                int v = valley;
+                int w = what;
+                Boundary.due("valley " + v + " what " + w, 0, () -> x.clauses(v, w));
+            }
+        }
+    }
+
     // Promise 12: done.
 
     static void promise12_noSuchValleyAboutOrWhat() {
@@ -850,6 +928,14 @@ public final class BoundariesOfDancesTest {
         Boundary.due("all that can be done", 9999, () -> x.done(1, 3, 0));
         Boundary.due("no stamp", 0, () -> x.done(1, 3, 1));
         Boundary.due("nobody", 0, () -> x.count(5));
+    }
+
+    static void promise12_theYearAheadOfWorseKnees() {
+        DancedPacts x = Boundary.told(Boundary.LAME);
+        x.act(0, 3, 4);
+        Boundary.due("stamped now", 1, () -> x.done(0, 3, 1));
+        x.years(1);
+        Boundary.due("not a year later", 0, () -> x.done(0, 3, 1));
     }
 
     static void promise12_aStampEndsWithWhatBinds() {

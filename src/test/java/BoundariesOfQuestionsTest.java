@@ -93,6 +93,71 @@ public final class BoundariesOfQuestionsTest {
         mends(x, "danced again", 1, 10);
     }
 
+    static void promise19_theYearAheadOfWorseKnees() {
+        Boundary.nowAndThen("how many", 0, 1, x -> x.mend(0, 0));
+    }
+
+    static void promise19_tenStepsOfTheEighthDance() {
+        DancedPacts x = Boundary.told(Boundary.FULL);
+        Boundary.due("none to be mended", 0, () -> x.mend(7, 0));
+        x.stumble(7, 9, 5);
+        Boundary.due("one", 1, () -> x.mend(7, 0));
+        Boundary.due("the first", 3, () -> x.mend(7, 1));
+        DancedPacts ten = Boundary.told(Boundary.PAIR + "bow;" + "glove 0 1;".repeat(8) + "turn 0 1;");
+        mends(ten, "ten steps", -1, -1);
+        String seven = "dance 0 1 1;dance 0 2 1;dance 0 3 1;dance 0 4 1;dance 0 5 1;dance 1 2 1;dance 1 3 1;";
+        DancedPacts last = Boundary.told(Boundary.SIX + seven + "dance 1 4 1;bow;" + "glove 0 1;".repeat(8) + "turn 0 1;");
+        Boundary.due("ten steps of the last", -1, () -> last.mend(7, 0));
+    }
+
+    /** Each answer beside what trying all stumbles by the face itself comes to. */
+    static void promise19_asTryingAllStumbles() {
+        String[] texts = {
+            "floor 7;" + Boundary.PAIR + "turn 0 3;step 0 3 0;turn 0 1;step 0 6 0;turn 0 0;turn 1 0;",
+            "floor 19;" + Boundary.PAIR + "turn 0 3;step 0 1 0;turn 0 1;step 0 8 0;step 0 8 0;turn 0 1;turn 1 1;",
+            "floor 6;" + Boundary.PAIR + "turn 1 1;hop 1 2 0;turn 1 3;bow;step 2 1 0;turn 0 3;glove 2 1;",
+            "floor 5;valley 9;valley 3;dance 0 1 1;step 1 2 0;turn 2 3;step 2 2 0;bow;turn 1 2;step 0 1 0;",
+            "floor 9;" + Boundary.PAIR + "step 0 4 0;turn 0 1;step 0 5 0;turn 1 1;step 1 4 0;",
+            "floor 8;" + Boundary.PAIR + "turn 0 1;step 2 3 0;turn 0 2;hop 0 9 1;turn 1 3;step 1 9 0;",
+        };
+        for (String text : texts) {
+            int[] due = tryAll(text);
+            mends(Boundary.told(text), text, due[0], due[1]);
+        }
+    }
+
+    private static int[] tryAll(String text) {
+        if (bindsWith(text)) {
+            return new int[] {0, -1};
+        }
+        int steps = Boundary.told(text).dance(0, 3);
+        for (int one = 0; one < 10 * steps; one++) {
+            if (bindsWith(text, one)) {
+                return new int[] {1, one};
+            }
+        }
+        for (int i = 0; i < steps; i++) {
+            for (int j = i + 1; j < steps; j++) {
+                for (int n = 0; n < 100; n++) {
+                    if (bindsWith(text, 10 * i + n / 10, 10 * j + n % 10)) {
+                        return new int[] {2, 100 * (10 * i + n / 10) + 10 * j + n % 10};
+                    }
+                }
+            }
+        }
+        return new int[] {-1, -1};
+    }
+
+    private static boolean bindsWith(String text, int... stumbles) {
+        DancedPacts x = Boundary.told(text);
+        for (int s : stumbles) {
+            if (x.stumble(0, s / 10, s % 10) == s % 10) {
+                return false;
+            }
+        }
+        return x.count(10) == 0 && x.dance(0, 6) == 1;
+    }
+
     static void promise19_askingChangesNothing() {
         Boundary.leavesAll("mend what 0", 0, -1, x -> x.mend(0, 0));
         Boundary.leavesAllOf("mend by 2", 2, -1, x -> Boundary.tell(x, Boundary.PAIR + "turn 0 1;turn 1 1;"),
@@ -151,6 +216,29 @@ public final class BoundariesOfQuestionsTest {
         Boundary.due("danced again", 3, () -> x.costly(0));
     }
 
+    static void promise20_eachStepByItself() {
+        // 5 and 5, 4 and 6 can be: 5 and 6 could not.
+        costs(Boundary.PAIR + "step 0 4 0;step 0 5 0;", -1);
+        costs(Boundary.PAIR + "step 0 5 0;step 0 5 0;", 6);
+    }
+
+    static void promise20_theYearAheadOfWorseKnees() {
+        Boundary.nowAndThen("costly", 2, -1, x -> x.costly(0));
+        DancedPacts x = Boundary.told("valley 9;valley 0;floor 7;dance 0 1 1;step 0 5 0;");
+        Boundary.due("one more now", 6, () -> x.costly(0));
+        x.years(1);
+        Boundary.due("one more a year later", -1, () -> x.costly(0));
+    }
+
+    static void promise20_tenStepsOfTheEighthDance() {
+        DancedPacts x = Boundary.told(Boundary.FULL);
+        Boundary.due("turns", 3, () -> x.costly(7));
+        Boundary.due("bows", -1, () -> x.costly(0));
+        String seven = "dance 0 1 1;dance 0 2 1;dance 0 3 1;dance 0 4 1;dance 0 5 1;dance 1 2 1;dance 1 3 1;";
+        DancedPacts none = Boundary.told(Boundary.SIX + seven + "dance 1 4 1;" + "step 0 0 0;".repeat(10));
+        Boundary.due("steps of none", -1, () -> none.costly(7));
+    }
+
     static void promise20_askingChangesNothing() {
         Boundary.leavesAllOf("costly", 13, -1,
                 x -> Boundary.tell(x, Boundary.PAIR + "step 0 1 0;turn 0 4;turn 1 4;"), x -> x.costly(0));
@@ -181,6 +269,11 @@ public final class BoundariesOfQuestionsTest {
         Boundary.due("in 88", 0, () -> y.later(88));
         Boundary.due("in 89", 1, () -> y.later(89));
         Boundary.due("in 99", 1, () -> y.later(99));
+    }
+
+    static void promise21_theYearAheadOfWorseKnees() {
+        Boundary.nowAndThen("later(0)", 2, 1, x -> x.later(0));
+        Boundary.nowAndThen("later(1)", 1, 1, x -> x.later(1));
     }
 
     static void promise21_noneAndAllDances() {
@@ -259,6 +352,18 @@ public final class BoundariesOfQuestionsTest {
         Boundary.due("below 0 is 0 too", 0, () -> y.inTime(0, 4));
     }
 
+    static void promise22_theYearAheadOfWorseKnees() {
+        Boundary.nowAndThen("inTime", 2, 0, x -> x.inTime(0, 1));
+    }
+
+    static void promise22_tenStepsOfTheEighthDance() {
+        DancedPacts x = Boundary.told(Boundary.FULL);
+        Boundary.due("no clauses", 0, () -> x.inTime(7, 1));
+        String seven = "dance 0 1 1;dance 0 2 1;dance 0 3 1;dance 0 4 1;dance 0 5 1;dance 1 2 1;dance 1 3 1;";
+        DancedPacts ten = Boundary.told(Boundary.SIX + seven + "dance 1 4 1;" + "step 0 1 0;".repeat(10));
+        Boundary.due("ten clauses", 10, () -> ten.inTime(7, 2));
+    }
+
     static void promise22_forSomeWhomTheyBind() {
         String rule = "limit lead*time+5;";
         DancedPacts both = Boundary.told(Boundary.PAIR + "step 2 1 0;" + rule);
@@ -301,6 +406,24 @@ public final class BoundariesOfQuestionsTest {
         Boundary.due("ahead of a step of both", 8, () -> x.apart(0));
         x.stumble(0, 1, 3);
         Boundary.due("all of it", 1, () -> x.apart(0));
+    }
+
+    static void promise23_aheadOfAStepUpOrDown() {
+        DancedPacts leader = Boundary.told(Boundary.PAIR + "turn 0 1;step 0 2 0;step 0 4 0;");
+        Boundary.due("the leader has not gone", 13, () -> leader.apart(0));
+        DancedPacts follower = Boundary.told(Boundary.PAIR + "turn 1 1;step 1 2 0;step 1 5 0;");
+        Boundary.due("the follower has not gone", 13, () -> follower.apart(0));
+        DancedPacts both = Boundary.told(Boundary.PAIR + "turn 0 1;turn 1 3;step 1 1 0;step 2 5 0;");
+        Boundary.due("neither has gone", 12, () -> both.apart(0));
+    }
+
+    static void promise23_theYearAheadOfWorseKnees() {
+        Boundary.nowAndThen("apart", 10, 11, x -> x.apart(0));
+    }
+
+    static void promise23_tenStepsOfTheEighthDance() {
+        DancedPacts x = Boundary.told(Boundary.FULL);
+        Boundary.due("apart", 11, () -> x.apart(7));
     }
 
     static void promise23_brokenOffToo() {
@@ -384,6 +507,15 @@ public final class BoundariesOfQuestionsTest {
                 + "dance 1 2 1;dance 1 3 1;dance 1 4 1;dance 0 5 1;step 0 2 0;", 4, 128);
     }
 
+    static void promise24_theYearAheadOfWorseKnees() {
+        Boundary.nowAndThen("couples", 1, 0, x -> x.against(0));
+        Boundary.nowAndThen("fewest", 1, 0, x -> x.against(1));
+    }
+
+    static void promise24_allThatThereCanBe() {
+        contradicts(Boundary.told(Boundary.FULL), "all without clauses", 0, 0);
+    }
+
     static void promise24_askingBreaksNothing() {
         Boundary.leavesAllOf("against", 1, -1,
                 x -> Boundary.tell(x, Boundary.SIX + "dance 0 1 1;step 0 1 0;dance 0 2 1;step 0 2 0;"),
@@ -432,6 +564,18 @@ public final class BoundariesOfQuestionsTest {
         helps("dance 0 1 3;dance 1 2 3;dance 2 3 3;dance 3 4 3;dance 4 5 3;", 62, 61, 59, 55, 47, 31);
         helps("dance 4 5 3;dance 3 4 3;dance 2 3 3;dance 1 2 3;dance 0 1 3;", 62, 61, 59, 55, 47, 31);
         helps("dance 1 0 3;dance 2 1 3;dance 3 2 2;dance 3 4 3;", 6, 5, 3, 16, 8, 0);
+    }
+
+    static void promise25_theYearAheadOfWorseKnees() {
+        Boundary.nowAndThen("help", 2, 0, x -> x.help(0));
+    }
+
+    static void promise25_allThatThereCanBe() {
+        DancedPacts x = Boundary.told(Boundary.FULL);
+        for (int valley = 0; valley < 6; valley++) {
+            int v = valley;
+            Boundary.due("help " + v, 63 - (1 << v), () -> x.help(v));
+        }
     }
 
     static void promise25_notItselfByARound() {
@@ -492,6 +636,13 @@ public final class BoundariesOfQuestionsTest {
     static void promise26_eightDances() {
         dances("dance 0 1 1;dance 0 2 1;dance 0 3 1;dance 0 4 1;dance 0 5 1;dance 1 2 1;dance 3 4 1;dance 1 3 1;", 5, 3, 112);
         dances("dance 0 1 1;dance 1 2 1;dance 2 3 1;dance 3 4 1;dance 4 5 1;dance 5 0 1;dance 0 3 1;dance 1 4 1;", 3, 3, 21);
+    }
+
+    static void promise26_allThatThereCanBe() {
+        DancedPacts x = Boundary.told(Boundary.FULL);
+        Boundary.due("evenings", 5, () -> x.evenings(0));
+        Boundary.due("at once", 2, () -> x.evenings(1));
+        Boundary.due("which", 36, () -> x.evenings(2));
     }
 
     static void promise26_allDancesBindingOrNot() {

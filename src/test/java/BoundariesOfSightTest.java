@@ -240,6 +240,27 @@ public final class BoundariesOfSightTest {
         }
     }
 
+    static void promise28_theYearAheadOfWorseKnees() {
+        DancedPacts x = Boundary.told(Boundary.LAME);
+        x.see(0, 2, 0, 0, 5);
+        Boundary.due("so now", 1, () -> x.limp(0, 2));
+        x.years(1);
+        Boundary.due("not so a year later", 0, () -> x.limp(0, 2));
+        Boundary.due("by N of 2 then", 22, () -> x.limp(0, 1));
+    }
+
+    static void promise28_tenStepsOfTheEighthDance() {
+        DancedPacts x = Boundary.told(Boundary.FULL);
+        x.see(7, 9, 0, 0, 6);
+        Boundary.due("how many", 90, () -> x.limp(7, 0));
+        Boundary.due("the first", 0, () -> x.limp(7, 1));
+        Boundary.due("without", 1, () -> x.limp(7, 2));
+        x.see(7, 9, 0, 1, 6);
+        Boundary.due("none", 0, () -> x.limp(7, 0));
+        Boundary.due("no first", -1, () -> x.limp(7, 1));
+        Boundary.due("not so", 0, () -> x.limp(7, 2));
+    }
+
     // Promise 29: forget.
 
     static void promise29_noneAndEight() {
@@ -338,6 +359,16 @@ public final class BoundariesOfSightTest {
         DancedPacts x = Boundary.told(Boundary.SIX + "dance 0 1 1;step 0 4 3;dance 4 5 1;step 1 7 3;");
         Boundary.due("first", 47, () -> x.game(0, 5, 3, 1));
         Boundary.due("unbound ones", 99, () -> x.game(1, 4, 3, 1));
+    }
+
+    static void promise30_theYearAheadOfWorseKnees() {
+        Boundary.nowAndThen("game", 39, 99, x -> x.game(0, 1, 3, 1));
+    }
+
+    static void promise30_allThatThereCanBe() {
+        DancedPacts x = Boundary.told(Boundary.FULL);
+        Boundary.due("rest", 1, () -> x.game(4, 5, 7, 0));
+        Boundary.due("first", 99, () -> x.game(5, 0, 7, 1));
     }
 
     // Promise 31: century.
@@ -475,6 +506,30 @@ public final class BoundariesOfSightTest {
         Boundary.due("in the tenth", 1, () -> x.century(nothing, 1, 0));
         int again = seedOf(0);
         Boundary.due("danced again in the tenth", 0, () -> x.century(again, 1, 0));
+    }
+
+    static void promise31_theYearAheadOfWorseKnees() {
+        Boundary.nowAndThen("without years", 2, 1, x -> x.century(1, 0, 0));
+        Boundary.nowAndThen("the fewest", 2, 1, x -> x.century(1, 0, 1));
+    }
+
+    static void promise31_allThatThereCanBe() {
+        DancedPacts x = Boundary.told(Boundary.FULL);
+        int[] broken = new int[8];
+        int s = 77;
+        int last = 8;
+        for (int i = 0; i < 40; i++) {
+            s = s * 1103515245 + 12345;
+            int dance = (s >>> 16) % 32768 % 8;
+            s = s * 1103515245 + 12345;
+            int what = (s >>> 16) % 32768 % 3;
+            broken[dance] = what == 2 ? broken[dance] : what;
+        }
+        for (int b : broken) {
+            last -= b;
+        }
+        int due = last;
+        Boundary.due("at the end", due, () -> x.century(77, 40, 0));
     }
 
     static void promise31_nothingOfItHappens() {
@@ -656,6 +711,51 @@ public final class BoundariesOfSightTest {
             Boundary.due("done", (left + 1) * (left + 2) / 2, () -> x.done(1, 7, 0));
         }
         Boundary.due("none", -1, x::undo);
+    }
+
+    static void promise33_theDanceAndTheStepOfWhatIsSeen() {
+        DancedPacts x = Boundary.told(Boundary.PAIR + "step 0 4 0;step 0 2 0;valley 0;dance 0 2 1;step 0 4 0;");
+        x.see(0, 0, 0, 4, 6);
+        x.image();
+        x.forget();
+        x.see(1, 0, 0, 4, 6);
+        Boundary.due("restore", true, x::restore);
+        Boundary.due("of the first dance", 9, () -> x.limp(0, 0));
+        Boundary.due("not of the second", 9, () -> x.limp(1, 0));
+        Boundary.due("the first by the second step", 10, () -> x.limp(0, 1));
+        x.forget();
+        x.see(0, 1, 0, 4, 6);
+        Boundary.due("restore again", true, x::restore);
+        Boundary.due("behind the first step", 1, () -> x.limp(0, 2));
+        x.forget();
+        x.see(0, 0, 1, 4, 6);
+        Boundary.due("restore once more", true, x::restore);
+        Boundary.due("of the leader", 1, () -> x.limp(0, 2));
+    }
+
+    static void promise33_allThatThereCanBe() {
+        DancedPacts x = Boundary.told(Boundary.FULL);
+        x.image();
+        x.stumble(7, 9, 9);
+        x.stumble(7, 0, 8);
+        x.breaks(7);
+        x.years(1);
+        x.again(6);
+        x.act(5, 7, 99);
+        Boundary.due("restore", true, x::restore);
+        Boundary.due("n of the last step", 4, () -> x.step(7, 9, 2));
+        Boundary.due("n of its first step", 4, () -> x.step(7, 0, 2));
+        Boundary.due("broken off", 0, () -> x.dance(7, 5));
+        Boundary.due("since", 0, () -> x.dance(6, 4));
+        Boundary.due("done", 0, () -> x.done(5, 7, 0));
+        x.stumble(7, 9, 9);
+        x.act(5, 7, 1);
+        x.image();
+        x.undo();
+        x.undo();
+        Boundary.due("restore again", true, x::restore);
+        Boundary.due("n then", 9, () -> x.step(7, 9, 2));
+        Boundary.due("done then", 1, () -> x.done(5, 7, 0));
     }
 
     static void promise33_whatWasUndoneIsThereAgain() {

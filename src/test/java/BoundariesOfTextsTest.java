@@ -233,6 +233,35 @@ public final class BoundariesOfTextsTest {
         Boundary.due("steps of the text before", 1, () -> x.dance(0, 3));
     }
 
+    static void promise03_theRuleOfTheLatestTextAlone() {
+        DancedPacts x = Boundary.told(Boundary.PAIR + "step 0 1 3;limit n+about*2;");
+        Boundary.due("the first rule", 7, () -> x.bound(0, 3));
+        Boundary.due("a fault within a rule", 3, () -> Boundary.tell(x, "limit 50+(30+x);"));
+        Boundary.due("the first rule still", 7, () -> x.bound(0, 3));
+        Boundary.due("another", 0, () -> Boundary.tell(x, Boundary.PAIR + "step 0 1 3;limit 40;"));
+        Boundary.due("the second rule", 40, () -> x.bound(0, 3));
+        Boundary.due("none", 0, () -> Boundary.tell(x, Boundary.PAIR + "step 0 1 3;"));
+        Boundary.due("without a rule", 2, () -> x.bound(0, 3));
+        Boundary.due("the last", 0, () -> Boundary.tell(x, Boundary.PAIR + "step 0 1 3;limit 9;"));
+        Boundary.due("the last rule", 9, () -> x.bound(0, 3));
+    }
+
+    static void promise03_allThatThereCanBe() {
+        DancedPacts x = Boundary.told(Boundary.FULL);
+        Boundary.due("valleys", 6, () -> x.count(0));
+        Boundary.due("dances", 8, () -> x.count(1));
+        for (int dance = 0; dance < 8; dance++) {
+            int d = dance;
+            Boundary.due("steps of " + d, 10, () -> x.dance(d, 3));
+            Boundary.due("kind of the last of " + d, d == 7 ? 1 : 4, () -> x.step(d, 9, 0));
+        }
+        Boundary.due("a smaller one", 0, () -> Boundary.tell(x, Boundary.PAIR));
+        Boundary.due("valleys then", 2, () -> x.count(0));
+        Boundary.due("dances then", 1, () -> x.count(1));
+        Boundary.due("steps then", 0, () -> x.dance(0, 3));
+        Boundary.due("no step then", Boundary.NSE, () -> x.step(0, 0, 0));
+    }
+
     static void promise03_statusStaysOverABall() {
         DancedPacts x = Boundary.living();
         Boundary.due("ball", 0, () -> x.ball(0));

@@ -33,6 +33,7 @@ public final class ModelTest {
     }
 
     public static void main(String[] args) {
+        Watchdog.start();
         long seed = args.length > 0 ? Long.parseLong(args[0]) : 20261118L;
         Map<String, Integer> seen = new HashMap<>();
         for (int run = 0; run < RUNS && wrong < 20; run++) {

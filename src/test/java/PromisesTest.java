@@ -68,6 +68,7 @@ public final class PromisesTest {
     }
 
     public static void main(String[] args) {
+        Watchdog.start();
         aNewObject();
         feed();
         ball();

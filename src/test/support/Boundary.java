@@ -19,6 +19,12 @@ final class Boundary {
     static final int MIN = Integer.MIN_VALUE;
     static final int MAX = Integer.MAX_VALUE;
 
+    /** All that there can be: six VALLEYS, eight DANCES, ten STEPS each; the last DANCE's are turns. */
+    static final String FULL = full();
+    /** DANCE 0, a waltz, binds now, and not a year later: the LEADER's KNEES keep him a row below. */
+    static final String LAME = "valley 9;valley 0;valley 0;dance 0 1 3;turn 0 3;turn 1 1;step 2 1 3;turn 0 1;turn 1 3;"
+            + "hop 1 1 4;glove 0 5;dance 1 2 1;step 0 2 3;";
+
     private static String testing = "";
     private static int wrong = 0;
 
@@ -37,8 +43,19 @@ final class Boundary {
     private Boundary() {
     }
 
+    private static String full() {
+        StringBuilder text = new StringBuilder(SIX);
+        int[] pairs = {1, 2, 3, 4, 5, 12, 13, 14};
+        for (int dance = 0; dance < 8; dance++) {
+            text.append("dance ").append(pairs[dance] / 10).append(' ').append(pairs[dance] % 10).append(" 3;");
+            text.append(dance < 7 ? "bow;".repeat(10) : "turn 0 4;".repeat(10));
+        }
+        return text.toString();
+    }
+
     /** Runs all tests of a class by their names, and ends with 1 if an answer was wrong. */
     static void runAll(Class<?> tests) throws ReflectiveOperationException {
+        Watchdog.start();
         Method[] methods = tests.getDeclaredMethods();
         Arrays.sort(methods, Comparator.comparing(Method::getName));
         int ran = 0;
@@ -86,6 +103,20 @@ final class Boundary {
         if (!want.equals(got)) {
             tellWrong(what + " answered " + got + ", due is " + want);
         }
+    }
+
+    /** What is asked of LAME answers so now, and otherwise a year later. */
+    static void nowAndThen(String what, Object now, Object then, Ask call) {
+        nowAndThenOf(LAME, what, now, then, call);
+    }
+
+    static void nowAndThenOf(String text, String what, Object now, Object then, Ask call) {
+        DancedPacts x = told(text);
+        due(what + " now", now, () -> call.of(x));
+        x.years(1);
+        due(what + " a year later", then, () -> call.of(x));
+        x.undo();
+        due(what + " now again", now, () -> call.of(x));
     }
 
     static String blanks(int many) {
