@@ -489,6 +489,12 @@ public final class BoundariesOfQuestionsTest {
         contradicts(x, "one broken off", 0, 0);
     }
 
+    static void promise24_notWhatTheDanceBesideBinds() {
+        // VALLEY 1 follows in DANCE 0 and leads in 2; DANCE 1 binds another one, not 1, to another LIMIT.
+        contradicts("dance 0 1 1;dance 2 3 1;step 0 1 5;dance 1 3 1;step 0 2 5;", 0, 0);
+        contradicts("dance 1 0 1;dance 2 3 1;step 1 1 5;dance 1 3 1;step 0 2 5;", 0, 0);
+    }
+
     static void promise24_theFewestThenTheLeastAsBits() {
         // The last one contradicts both others: it alone, not the first two.
         contradicts("dance 0 1 1;step 0 1 0;dance 0 2 1;step 0 1 0;dance 0 3 1;step 0 2 0;", 2, 4);

@@ -1,7 +1,10 @@
+import java.io.IOException;
 import java.lang.reflect.Constructor;
 import java.lang.reflect.Field;
 import java.lang.reflect.Method;
 import java.lang.reflect.Modifier;
+import java.nio.file.Files;
+import java.nio.file.Path;
 import java.util.HashSet;
 import java.util.Set;
 import java.util.TreeSet;
@@ -52,7 +55,8 @@ public final class FaceTest {
         }
     }
 
-    public static void main(String[] args) {
+    public static void main(String[] args) throws IOException {
+        checkAsPrinted();
         Class<?> c = DancedPacts.class;
         due("the class", Modifier.toString(c.getModifiers()), "public final");
         Set<String> want = new TreeSet<>(Set.of(FACE));
@@ -82,6 +86,24 @@ public final class FaceTest {
             System.exit(1);
         }
         System.out.println("the face is as due");
+    }
+
+    /** Each member stands in the source with the very words that the document prints. */
+    private static void checkAsPrinted() throws IOException {
+        String source = Files.readString(Path.of("src/main/java/DancedPacts.java")).replaceAll("\\s+", " ");
+        boolean inside = false;
+        int members = 0;
+        for (String line : Files.readAllLines(Path.of("../shared/DOC.md"))) {
+            String member = line.strip();
+            if (inside && member.endsWith(";")) {
+                String head = member.substring(0, member.length() - 1);
+                boolean constant = head.contains("=");
+                due("printed: " + head, source.contains(constant ? member : head + " {"), true);
+                members++;
+            }
+            inside = (inside || member.equals("public final class DancedPacts {")) && !member.equals("}");
+        }
+        due("members that the document prints", members, FACE.length + 2);
     }
 
     private static String told(Method m) {
