@@ -5,7 +5,8 @@ import java.lang.management.ManagementFactory;
 public final class RoomTest {
     private static final long MOST_BYTES_OF_AN_OBJECT = 40_000;
     private static final long MOST_BYTES_OF_ALL_CALLS = 4_000;
-    private static final int CALLS = 512;
+    /** With those that tell the ball, and count() behind all, an object has at most 512. */
+    private static final int CALLS = 464;
     /** The machine itself may make something when a call is met for the first time. */
     private static final int WARM_RUNS = 3;
 
@@ -28,8 +29,8 @@ public final class RoomTest {
             return;
         }
         boolean fits = keepsTo("an object", MOST_BYTES_OF_AN_OBJECT, x -> new DancedPacts());
-        fits &= keepsTo("512 calls of a full ball", MOST_BYTES_OF_ALL_CALLS, RoomTest::askAll);
-        fits &= keepsTo("512 calls that tell balls", MOST_BYTES_OF_ALL_CALLS, RoomTest::tellAll);
+        fits &= keepsTo(CALLS + " calls of a full ball", MOST_BYTES_OF_ALL_CALLS, RoomTest::askAll);
+        fits &= keepsTo(CALLS + " calls that tell balls", MOST_BYTES_OF_ALL_CALLS, RoomTest::tellAll);
         System.out.println(fits ? "all fits in the room" : "too much is made");
         if (!fits) {
             System.exit(1);
